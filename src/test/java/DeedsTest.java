@@ -101,7 +101,9 @@ public final class DeedsTest {
         law("4 + not ( 1 - 1 )", 5);
         law("not 0 * 6 + 2", 8);
         law("4 + ( 7 and 8 )", 5);
+        law("4 + ( 1 and 1 )", 5);
         law("4 + ( 7 and 0 )", 4);
+        law("4 + ( 0 and 7 )", 4);
         law("4 + ( 0 or 8 )", 5);
         law("4 + ( 0 or 0 )", 4);
         law("4 + ( 1 or 1 and 0 )", 4);
@@ -432,6 +434,25 @@ public final class DeedsTest {
         Probe.due("thread", x.count(6), 0);
         Probe.due("no more", x.undo(), false);
 
+        x.swim(0, 0);
+        Probe.due("lay behind swim", x.lay(1, 0), 1);
+        x.stage(1, 4);
+        x.share(1, 0, 4);
+        x.take(0, 3);
+        x.undo();
+        Probe.due("the take alone", x.diver(0, 2), 94);
+        x.undo();
+        Probe.due("the share alone", x.place(1, 1), 4);
+        x.undo();
+        Probe.due("the stage alone", x.diver(1, 2), 82);
+        x.stone(0);
+        x.undo();
+        Probe.due("the stone alone", x.count(6), 1);
+        x.undo();
+        Probe.due("the lay alone", x.diver(0, 1), 1);
+        Probe.due("the swim", x.undo(), true);
+        Probe.due("no more", x.undo(), false);
+
         for (int i = 0; i < 20; i++) {
             x.hour();
             x.swim(0, 2);
@@ -469,6 +490,9 @@ public final class DeedsTest {
             Probe.due("none drowns: " + bad[i], x.judged(1), -1);
             Probe.due("none has: " + bad[i], x.judged(2), 0);
         }
+        Probe.due("dive()", Probe.dive(x, "share a b 15 ; share b c 29 ; share c a 59 ; lay a 0 ; hour ; stage a 9 ; stone 0 ;"), 0);
+        Probe.due("shares in a ring", x.judged(0), -1);
+        Probe.due("the same once more", x.judged(0), -1);
         Probe.due("dive()", Probe.dive(x, "swim a 0 ; swim a 0 ; hour ;"), 0);
         Probe.due("all can be", x.judged(0), -1);
         Probe.due("an empty dive", x.dive(), 0);

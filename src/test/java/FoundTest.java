@@ -12,7 +12,26 @@ public final class FoundTest {
         whoItWas();
         whereToAsk();
         byTheHour();
+        inMarks();
         Probe.close();
+    }
+
+    private static void inMarks() {
+        DrownedCave x = Probe.told(CAVE);
+        x.mark(0, false);
+        x.find(1, 10);
+        x.find(2, 28);
+        x.mark(1, false);
+        x.mark(0, true);
+        Probe.due("nothing was found then", x.who(), 15);
+        x.find(1, 8);
+        x.find(1, 8);
+        Probe.due("the old one", x.who(), 2);
+        x.mark(1, true);
+        Probe.due("what was found, not only how much", x.who(), 9);
+        x.find(1, 8);
+        x.mark(1, true);
+        Probe.due("once more", x.who(), 9);
     }
 
     private static void finding() {
@@ -67,6 +86,12 @@ public final class FoundTest {
             + "way p q wide long 1 ; way m r wide long 1 ; diver a plain gas 9 ; diver b old gas 9 ; diver c afraid gas 9 ; ";
         Probe.due("p parts two from one, q parts all", Probe.told(three).ask(), 2);
         Probe.due("p parts all", Probe.told(three + "breath 2 ;").ask(), 1);
+        Probe.due("p parts two", Probe.told("place m deep 0 ; place p deep 2 ; way m p wide long 1 ; "
+            + "diver a plain gas 9 ; diver b old gas 9 ;").ask(), 1);
+        DrownedCave few = Probe.told("place m deep 0 ; place p deep 4 ; place q deep 5 ; way m p wide long 1 ; way m q wide long 1 ; "
+            + "diver a plain gas 9 ; diver b afraid gas 9 ; diver c afraid gas 9 ; diver d calm gas 9 ; breath 1 + hours ;");
+        few.find(1, 2);
+        Probe.due("the afraid ones are alike", few.ask(), -1);
         DrownedCave apart = Probe.told("place m deep 0 ; place z deep 9 ; diver a plain gas 9 ; diver b old gas 9 ;");
         Probe.due("for a place without ways all are alike", apart.ask(), -1);
     }

@@ -24,8 +24,9 @@ public final class QuestionsTest {
         DrownedCave x = Probe.told(FLAT);
         Probe.due("nothing is staged", x.bell(), -1);
         x.swim(0, 0);
-        x.stage(0, 5);
+        x.stage(0, 1);
         Probe.due("there alone", x.bell(), 1);
+        x.stage(0, 4);
         x.stage(1, 5);
         Probe.due("of equal ones the first", x.bell(), 0);
         x.stage(0, 1);
@@ -143,6 +144,7 @@ public final class QuestionsTest {
         for (int[] row : others) {
             Probe.due("others", x.years(row[0], row[1], row[2]), -1);
         }
+        yearsByHand(Probe.told("place m deep 0 ; place p deep 3 ; way m p wide long 1 ; diver a plain gas 50 ;"), 77, 50);
         DrownedCave dry = Probe.told("place m deep 0 ; diver a plain gas 7 ;");
         Probe.due("no ways", dry.years(1, 99, 0), 0);
         Probe.due("no ways", dry.years(1, 99, 1), 0);

@@ -18,6 +18,7 @@ public final class ReadingTest {
         breathFaults();
         diveFaults();
         whatACaveBrings();
+        caveBehindCave();
         whatAFaultLeaves();
         Probe.close();
     }
@@ -113,6 +114,9 @@ public final class ReadingTest {
         bad("told already", TWO + "way aa bb wide long 1 ; way aa bb", 3, "bb");
         bad("told already from the other end", TWO + "way aa bb wide long 1 ; way bb aa", 3, "aa");
         bad("no width", TWO + "way aa bb long 1", 1, "long");
+        bad("nothing behind the places", TWO + "way aa bb ;", 1, ";");
+        bad("nothing behind the width", TWO + "way aa bb wide ;", 1, ";");
+        bad("nothing behind long", TWO + "way aa bb wide long ;", 1, ";");
         bad("a number for a width", TWO + "way aa bb 1", 1, "1");
         bad("no long", TWO + "way aa bb narrow 1", 1, "1");
         bad("long 0", TWO + "way aa bb narrow long 0", 4, "0");
@@ -144,7 +148,8 @@ public final class ReadingTest {
         bad("rain 10", "rain 1 10", 4, "10");
         good("twelve", "rain 0 1 2 3 4 5 6 7 8 9 0 1 ;");
         bad("a thirteenth", "rain 0 1 2 3 4 5 6 7 8 9 0 1 6", 5, "6");
-        bad("a thirteenth that is no rain either: the least", "rain 0 1 2 3 4 5 6 7 8 9 0 1 77", 4, "77");
+        bad("a thirteenth, the highest", "rain 0 1 2 3 4 5 6 7 8 8 0 1 9", 5, "9");
+        bad("a thirteenth that is no rain either: the least", "rain 0 1 2 3 4 5 6 7 8 9 0 1 10", 4, "10");
         bad("a word behind twelve", "rain 0 1 2 3 4 5 6 7 8 9 0 1 x", 1, "x");
         bad("a word within", "rain 1 x", 1, "x");
         bad("a second time", "rain 0 ; rain", 3, "rain");
@@ -207,9 +212,10 @@ public final class ReadingTest {
 
     private static void whatACaveBrings() {
         DrownedCave x = Probe.told(TWO + "way aa bb wide long 1 ;");
-        x.hour();
-        x.swim(0, 0);
+        x.lay(0, 0);
         x.stage(0, 2);
+        x.stage(1, 3);
+        x.hour();
         x.find(0, 1);
         x.mark(2, false);
         Probe.due("dive()", Probe.dive(x, "hour;"), 0);
@@ -220,10 +226,33 @@ public final class ReadingTest {
         }
         Probe.due("all are at the mouth", x.place(0, 2), 3);
         Probe.due("nothing was breathed", x.spent(), 0);
+        Probe.due("nobody has been under water", x.diver(0, 3), 0);
+        Probe.due("nothing is staged at the mouth", x.place(0, 1), 0);
         Probe.due("no mark is there", x.mark(2, true), false);
         Probe.due("nothing can be undone", x.undo(), false);
         Probe.due("without places", Probe.cave(x, "diver z plain gas 5;"), 0);
         Probe.due("nowhere", x.diver(0, 1), -1);
+    }
+
+    private static void caveBehindCave() {
+        String[] texts = {TWO + "way aa bb wide long 1 ; rain 5 ; breath 7 ;", "place m deep 3 ; diver a old gas 9 ;",
+            "place m deep 3 ; place p deep 4 ; way p m narrow long 2 ; diver a plain gas 9 ;", "diver z calm gas 3 ;", ""};
+        int[][] counts = {{2, 1, 2, 5, 18, 7}, {1, 0, 1, 0, 9, -1}, {2, 1, 1, 0, 9, 10}, {0, 0, 1, 0, 3, -1}, {0, 0, 0, 0, 0, -1}};
+        DrownedCave x = new DrownedCave();
+        for (int i = 0; i < 25; i++) {
+            int next = i * i % 5;
+            int[] due = counts[next];
+            Probe.due("cave()", Probe.cave(x, texts[next]), 0);
+            Probe.due("places", x.count(0), due[0]);
+            Probe.due("ways", x.count(1), due[1]);
+            Probe.due("divers", x.count(2), due[2]);
+            Probe.due("rain", x.count(4), due[3]);
+            Probe.due("gas of all", x.count(8), due[4]);
+            Probe.due("where the first one is", x.diver(0, 1), due[2] == 0 ? -2 : due[0] == 0 ? -1 : 0);
+            int cost = x.cost(0, 0);
+            Probe.due("what the first way costs", cost, next == 0 ? 6 : due[5]);
+            x.hour();
+        }
     }
 
     private static void whatAFaultLeaves() {

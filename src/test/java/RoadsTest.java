@@ -116,6 +116,15 @@ public final class RoadsTest {
         Probe.due("reaches(-1)", x.reaches(-1), -1);
         Probe.due("reaches(4)", x.reaches(4), -1);
         Probe.due("nowhere", Probe.told("diver a plain gas 5 ;").reaches(0), 0);
+        DrownedCave cut = Probe.told(FLAT + "diver a plain gas 99 ; diver b plain gas 99 ;");
+        for (int i = 0; i < 4; i++) {
+            cut.swim(0, i == 0 ? 0 : 1);
+        }
+        Probe.due("the way from p to q is blind", cut.open(), 1);
+        Probe.due("one is at q", cut.diver(0, 1), 2);
+        Probe.due("from there none leads out", cut.reaches(0), 0);
+        Probe.due("nor anywhere", cut.lacks(0, 1), -1);
+        Probe.due("of the other one", cut.reaches(1), 3);
     }
 
     private static void theDeepest() {
@@ -152,6 +161,12 @@ public final class RoadsTest {
         Probe.due("at p the second one has 1 left, of 2", x.sure(), 1);
         x.stage(1, 1);
         Probe.due("the second one gets to p with nothing left", x.sure(), 1);
+        DrownedCave spare = Probe.told(FLAT + "diver a plain gas 9 ; diver b plain gas 9 ; diver c plain gas 1 ;");
+        Probe.due("one comes to p with nothing left", spare.sure(), 3);
+        DrownedCave out = Probe.told(FLAT + "diver a plain gas 9 ; diver b plain gas 9 ;");
+        out.stage(0, 9);
+        out.stage(1, 9);
+        Probe.due("nobody has gas, at the mouth", out.sure(), 1);
         DrownedCave three = Probe.told(FLAT + "diver a plain gas 6 ; diver b plain gas 5 ; diver c old gas 5 ;");
         Probe.due("4 + 3 + 3 left at q, 6 of them not the most, just what all need", three.sure(), 7);
         three.stage(1, 1);
@@ -202,6 +217,18 @@ public final class RoadsTest {
         Probe.due("never", Probe.told(FLAT + "rain 6 ;").clear(0), -1);
         DrownedCave white = Probe.told(FLAT + "rain 7 7 7 7 7 7 7 7 0 ;");
         Probe.due("8 + 0, 7 + 7, 8 .. 9 + 0: never", white.clear(0), -1);
+        DrownedCave slow = Probe.told(FLAT + "diver a plain gas 99 ; rain 2 7 6 7 6 7 6 7 6 7 6 ;");
+        slow.lay(0, 0);
+        for (int i = 0; i < 4; i++) {
+            slow.swim(0, 0);
+        }
+        Probe.due("silt", slow.way(0, 4), 9);
+        for (int i = 0; i < 5; i++) {
+            slow.hour();
+        }
+        Probe.due("not by 60", slow.clear(0), -1);
+        slow.hour();
+        Probe.due("by 60", slow.clear(0), 60);
         DrownedCave late = Probe.told(FLAT + "rain 7 0 0 ;");
         late.hour();
         Probe.due("by the rain that is then", late.clear(0), 0);
