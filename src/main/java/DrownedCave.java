@@ -963,11 +963,6 @@ public final class DrownedCave {
             }
         }
 
-        boolean reads(Reader reader) {
-            size = 0;
-            return readsTests(reader, 0);
-        }
-
         private boolean readsTests(Reader reader, int depth) {
             boolean fine = readsTest(reader, depth);
             for (int i = 0; fine && i < SIGNS; i++) {
@@ -1038,12 +1033,19 @@ public final class DrownedCave {
                 return true;
             }
             tape.next();
-            if (isGroup) {
-                return readsTests(reader, depth + 1) && reader.takesSign(')');
+            if (!isGroup) {
+                boolean fine = readsPart(reader, depth + 1);
+                put(NOT);
+                return fine;
             }
-            boolean fine = readsPart(reader, depth + 1);
-            put(NOT);
-            return fine;
+            if (!readsTests(reader, depth + 1)) {
+                return false;
+            }
+            if (tape.kind != ')') {
+                return reader.wrong(MISPLACED);
+            }
+            tape.next();
+            return true;
         }
 
         private static int factOf(Word word) {
@@ -1055,7 +1057,7 @@ public final class DrownedCave {
             for (int i = 0; i < size; i++) {
                 int step = code[i];
                 if (step >= HOURS && top < WAITING) {
-                    stack[top] = step >= 0 ? step : step == DEPTH ? depth : step == WHITE ? white : step == SILT ? silt : hours;
+                    stack[top] = stood(step, depth, white, silt, hours);
                     top++;
                 } else if (step == NOT && top >= 1) {
                     stack[top - 1] = stack[top - 1] == 0 ? 1 : 0;
@@ -1065,6 +1067,16 @@ public final class DrownedCave {
                 }
             }
             return stack[0];
+        }
+
+        private static int stood(int step, int depth, int white, int silt, int hours) {
+            switch (step) {
+                case DEPTH: return depth;
+                case WHITE: return white;
+                case SILT: return silt;
+                case HOURS: return hours;
+                default: return step;
+            }
         }
 
         private static int joined(int step, int left, int right) {
@@ -1206,8 +1218,9 @@ public final class DrownedCave {
 
         private boolean readsBreath(Reader reader) {
             lawTold = true;
+            law.size = 0;
             reader.tape.next();
-            return law.reads(reader);
+            return law.readsTests(reader, 0);
         }
 
         private boolean takesNewName(Reader reader) {
@@ -1222,7 +1235,7 @@ public final class DrownedCave {
             return true;
         }
 
-        /** The one end of a way, if it is the other one that is looked at; else NONE. */
+        /** For a way's other end its one end is given too: the two must not be joined yet; else NONE. */
         private boolean takesPlace(Reader reader, int one) {
             if (!reader.seesName()) {
                 return false;

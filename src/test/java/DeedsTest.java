@@ -13,6 +13,7 @@ public final class DeedsTest {
         whatIsThere();
         costs();
         laws();
+        longLaws();
         swimming();
         silting();
         laying();
@@ -115,6 +116,18 @@ public final class DeedsTest {
         law("9999 * 9999 * 43 - 9999 * 417 - 3158", 6);
         law("9999 * 9999 * 22", 1);
         law("3 + ( 9999 * 9999 * 22 < 0 )", 4);
+    }
+
+    private static void longLaws() {
+        law("9" + "+1-1".repeat(220), 9);
+        law("9" + " and 1 or 0".repeat(80), 1);
+        law("3*2" + "*1".repeat(440), 6);
+        String deep = "0 or 0 < 2 - 1 * 1";
+        for (int within = 0; within < 3; within++) {
+            deep = "0 or 0 < 2 - 1 * ( " + deep + " )";
+        }
+        law("9 - 2 * ( " + deep + " )", 7);
+        law("4 + not not not not 7", 5);
     }
 
     private static void law(String law, int due) {

@@ -112,9 +112,13 @@ public final class ModelTest {
         }
     }
 
-    /** 0 to below the bound, but for now and then one beside it. */
+    /** 0 to below the bound, but for now and then one beside it or far from it. */
     private int number(int bound) {
-        return draws.nextInt(12) == 0 ? draws.nextBoolean() ? -1 : bound : draws.nextInt(Math.max(1, bound));
+        if (draws.nextInt(12) > 0) {
+            return draws.nextInt(Math.max(1, bound));
+        }
+        int[] others = {-1, -1, bound, bound, 32, 64, -32, Integer.MAX_VALUE, Integer.MIN_VALUE};
+        return others[draws.nextInt(others.length)];
     }
 
     private static Long[] row(int... numbers) {

@@ -239,8 +239,8 @@ public final class ReadingTest {
             "place m deep 3 ; place p deep 4 ; way p m narrow long 2 ; diver a plain gas 9 ;", "diver z calm gas 3 ;", ""};
         int[][] counts = {{2, 1, 2, 5, 18, 7}, {1, 0, 1, 0, 9, -1}, {2, 1, 1, 0, 9, 10}, {0, 0, 1, 0, 3, -1}, {0, 0, 0, 0, 0, -1}};
         DrownedCave x = new DrownedCave();
-        for (int i = 0; i < 25; i++) {
-            int next = i * i % 5;
+        for (int i = 0; i < 50; i++) {
+            int next = i % 2 == 0 ? i / 10 : i / 2 % 5;
             int[] due = counts[next];
             Probe.due("cave()", Probe.cave(x, texts[next]), 0);
             Probe.due("places", x.count(0), due[0]);

@@ -149,6 +149,8 @@ public final class RoadsTest {
         Probe.due("all()", x.all(), 3);
         x.share(0, 3, 1);
         Probe.due("all() by 56", x.all(), 7);
+        x.stage(0, 99);
+        Probe.due("the first one has nothing", x.all(), 1);
         Probe.due("nowhere", Probe.told("diver a plain gas 5 ;").all(), 0);
     }
 
