@@ -508,6 +508,12 @@ public final class DeedsTest {
         Probe.due("the same once more", x.judged(0), -1);
         Probe.due("dive()", Probe.dive(x, "swim a 0 ; swim a 0 ; hour ;"), 0);
         Probe.due("all can be", x.judged(0), -1);
+        Probe.due("dive()", Probe.dive(x, "swim a 0 ; hour ; hour ;"), 0);
+        Probe.due("who has just enough does not drown", x.judged(1), -1);
+        Probe.due("nor has at last", x.judged(2), 0);
+        Probe.due("dive()", Probe.dive(x, "swim a 0 ;" + "hour ;".repeat(38) + "stone 0 ;"), 0);
+        Probe.due("the last of 40 lines", x.judged(0), 39);
+        Probe.due("the third hour", x.judged(1), 3);
         Probe.due("an empty dive", x.dive(), 0);
         Probe.due("judged(0)", x.judged(0), -1);
         Probe.due("judged(1)", x.judged(1), -1);

@@ -8,6 +8,7 @@ public final class ReadingTest {
     public static void main(String[] args) {
         newObject();
         feeding();
+        fullTapes();
         emptyTexts();
         tokens();
         firstWords();
@@ -48,6 +49,15 @@ public final class ReadingTest {
         Probe.due("count(13)", x.count(13), 1000);
         Probe.due("the last sign is read", x.cave(), 1 + 16 * 999);
         Probe.due("what reads the tape takes it", x.count(13), 0);
+    }
+
+    private static void fullTapes() {
+        DrownedCave x = new DrownedCave();
+        Probe.due("1,000 blanks", Probe.cave(x, " ".repeat(1000)), 0);
+        Probe.due("a word at the very end", Probe.cave(x, " ".repeat(996) + "rain"), 1 + 16 * 1000);
+        Probe.due("a number at the very end", Probe.cave(x, "rain" + " ".repeat(995) + "9"), 1 + 16 * 1000);
+        Probe.due("a sign at the very end", Probe.cave(x, "rain 9" + " ".repeat(993) + ";"), 0);
+        Probe.due("its rain", x.count(4), 9);
     }
 
     private static void emptyTexts() {
