@@ -586,6 +586,7 @@ public final class DeedEdgesTest {
         judge(x, "lay a 0;stone 0;lay b 0;", -1, -1, 0);
         judge(x, "take a 1;stage a 1;take a 1;take a 1;", 0, -1, 0);
         judge(x, "share a b 15;share a b 14;share a b 1;", 0, -1, 0);
+        judge(x, "share a b 14;share b c 33;share c a 99;", -1, -1, 0);
         judge(x, "hour;".repeat(39) + "take a 1;", 39, -1, 0);
         judge(x, "take a 1;" + "hour;".repeat(39), 0, -1, 0);
         judge(x, "", -1, -1, 0);

@@ -101,7 +101,7 @@ public final class QuestionEdgesTest {
         DrownedCave apart = Probe.told("place m deep 0;place p deep 0;" + KINDS);
         apart.find(1, 0);
         Probe.due("a place to which no ways lead", apart.who(), 0);
-        DrownedCave fresh = Probe.told(FLAT + "diver a plain gas 4;diver b plain gas 90;breath 1 + hours;");
+        DrownedCave fresh = Probe.told(FLAT + "diver a plain gas 4;diver b plain gas 90;breath 2 + hours;");
         fresh.swim(0, 0);
         fresh.hour();
         fresh.hour();
@@ -111,7 +111,7 @@ public final class QuestionEdgesTest {
         for (int i = 0; i < 5; i++) {
             fresh.hour();
         }
-        fresh.find(2, 2);
+        fresh.find(2, 4);
         Probe.due("as fresh, from the mouth, drowned or not", fresh.who(), 3);
         DrownedCave blind = Probe.told(FLAT + KINDS + "rain 9;");
         blind.find(2, 2);
@@ -524,6 +524,16 @@ public final class QuestionEdgesTest {
         x.find(1, 7);
         Probe.due("gone back to once more", x.mark(0, true), true);
         Probe.same("as it was", Probe.world(x), marked);
+
+        DrownedCave found = Probe.told(FLAT + KINDS + "breath 5;");
+        found.mark(0, false);
+        found.find(1, 4);
+        found.mark(1, false);
+        found.mark(0, true);
+        found.find(2, 10);
+        Probe.due("by something else", found.who(), 9);
+        found.mark(1, true);
+        Probe.due("by what was found then", found.who(), 2);
 
         DrownedCave four = Probe.told(FLAT + KINDS);
         for (int mark = 0; mark < 4; mark++) {

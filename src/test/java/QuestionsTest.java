@@ -162,9 +162,9 @@ public final class QuestionsTest {
         x.mark(3, false);
         long g = seed;
         int done = 0;
+        int[] bounds = {x.count(2), x.count(1), 4};
         for (int i = 0; i < steps; i++) {
             int[] drawn = new int[3];
-            int[] bounds = {x.count(2), x.count(1), 4};
             for (int k = 0; k < 3; k++) {
                 g = (g * 1103515245L + 12345) & 0x7fffffffL;
                 drawn[k] = (int) ((g >> 16) % bounds[k]);

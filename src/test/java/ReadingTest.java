@@ -250,6 +250,7 @@ public final class ReadingTest {
         int[][] counts = {{2, 1, 2, 5, 18, 7}, {1, 0, 1, 0, 9, -1}, {2, 1, 1, 0, 9, 10}, {0, 0, 1, 0, 3, -1}, {0, 0, 0, 0, 0, -1}};
         DrownedCave x = new DrownedCave();
         for (int i = 0; i < 50; i++) {
+            x = i % 20 == 0 ? new DrownedCave() : x;
             int next = i % 2 == 0 ? i / 10 : i / 2 % 5;
             int[] due = counts[next];
             Probe.due("cave()", Probe.cave(x, texts[next]), 0);

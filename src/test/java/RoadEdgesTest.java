@@ -56,6 +56,16 @@ public final class RoadEdgesTest {
         return x;
     }
 
+    /** One at q, whom a blind way parts from the others' places, and one at the mouth. */
+    private static DrownedCave parted() {
+        DrownedCave x = Probe.told(FLAT + "diver a plain gas 90;diver b plain gas 90;");
+        x.swim(0, 0);
+        x.swim(0, 1);
+        x.swim(0, 1);
+        x.swim(0, 1);
+        return x;
+    }
+
     private static void open() {
         Probe.sentence("OPEN: WAYS that are not BLIND, or have thread (bits)");
         Probe.due("no ways", new DrownedCave().open(), 0);
@@ -77,6 +87,10 @@ public final class RoadEdgesTest {
         DrownedCave x = Probe.told(FLAT + "way m q wide long 2;diver a plain gas 1;rain 0;breath 1 + silt;");
         Probe.due("where they are", x.needs(0, 0), 0);
         Probe.due("two alike", x.needs(0, 2), 2);
+        Probe.due("the lesser way round, told first", Probe.told("place m deep 0;place p deep 0;place q deep 0;way m q wide long 2;"
+            + "way m p wide long 1;way p q wide long 3;diver a plain gas 1;").needs(0, 2), 2);
+        Probe.due("the lesser way round, told last", Probe.told("place m deep 0;place p deep 0;place q deep 0;way m q wide long 5;"
+            + "way m p wide long 1;way p q wide long 3;diver a plain gas 1;").needs(0, 2), 4);
         Probe.due("more than they have", x.needs(0, 2) > x.diver(0, 2), true);
         Probe.due("the most", Probe.told(CHAIN + "diver z afraid gas 1;breath 20;").needs(0, 6), 6 * 198);
         DrownedCave dead = drowned();
@@ -185,6 +199,8 @@ public final class RoadEdgesTest {
         Probe.due("nowhere", Probe.told(NOWHERE).reaches(0), 0);
         Probe.due("by none", cutOff().reaches(0), 0);
         Probe.due("at the mouth, by none", cutOff().reaches(1), 1);
+        Probe.due("parted from all", parted().reaches(0), 0);
+        Probe.due("parted from one", parted().reaches(1), 3);
         DrownedCave nothing = Probe.told("place m deep 0;diver a plain gas 9;");
         nothing.stage(0, 9);
         Probe.due("the mouth by nothing", nothing.reaches(0), 1);
@@ -247,6 +263,10 @@ public final class RoadEdgesTest {
         nothing.stage(1, 9);
         Probe.due("nobody has anything at the mouth", nothing.sure(), 1);
         Probe.due("of the other one alone", drowned().sure(), 1);
+        DrownedCave asked = drowned();
+        Probe.due("what the drowned one needs", asked.out(0), 1);
+        Probe.due("does not count", asked.sure(), 1);
+        Probe.due("parted", parted().sure(), 0);
         Probe.due("by none", cutOff().sure(), 0);
         DrownedCave far = Probe.told(FLAT + "diver a plain gas 90;diver b plain gas 90;rain 0 6;");
         far.swim(0, 0);
@@ -287,8 +307,10 @@ public final class RoadEdgesTest {
         for (int place = 0; place < 3; place++) {
             Probe.due("drowned, to " + place, drowned().lacks(0, place), -1);
             Probe.due("by none, to " + place, cutOff().lacks(0, place), -1);
+            Probe.due("parted from all, to " + place, parted().lacks(0, place), -1);
         }
         Probe.due("at the mouth, by none", cutOff().lacks(1, 0), 0);
+        Probe.due("parted from one", parted().lacks(1, 2), -1);
         Probe.due("nowhere", Probe.told(NOWHERE).lacks(0, 0), -1);
         Probe.due("a place without ways", Probe.told("place m deep 0;place p deep 0;diver a plain gas 9;").lacks(0, 1), -1);
     }
@@ -481,6 +503,8 @@ public final class RoadEdgesTest {
         Probe.due("the mouth", Probe.told(CHAIN).far(0), 0);
         Probe.due("the farthest", Probe.told(CHAIN).far(6), 6);
         Probe.due("the shorter way round, though it is long", Probe.told(FLAT + "way q m narrow long 9;rain 9;").far(2), 1);
+        Probe.due("the shorter way round, told first", Probe.told("place m deep 0;place p deep 0;place q deep 0;place r deep 0;"
+            + "way m r wide long 9;way m p wide long 1;way p q wide long 1;way q r wide long 1;").far(3), 1);
 
         Probe.sentence("FAR; NONE: others, never.");
         for (int other : Probe.others(7)) {
@@ -506,8 +530,8 @@ public final class RoadEdgesTest {
         Probe.due("the first one is blind", x.lean(0), 2);
 
         Probe.sentence("LEAN; NONE: others, none.");
-        for (int other : Probe.others(2)) {
-            Probe.due("lean(" + other + ")", cutOff().lean(other), -1);
+        for (int other : Probe.others(1)) {
+            Probe.due("lean(" + other + ")", x.lean(other), -1);
         }
         Probe.due("all are blind", cutOff().lean(0), -1);
         Probe.due("no ways there", Probe.told("place m deep 0;place p deep 0;place q deep 0;way p q wide long 1;diver a old gas 9;").lean(0), -1);

@@ -34,6 +34,7 @@ public final class TextEdgesTest {
         firstKindInDives();
         otherKinds();
         whatACaveBrings();
+        caveBehindCave();
         whatADiveIs();
         whatAFaultLeaves();
         Probe.close();
@@ -407,6 +408,9 @@ public final class TextEdgesTest {
         law("3 + not not 9", 4);
         law("( 2 + 1 ) * 3", 9);
         bad("breath ();", 1, ")");
+        bad("breath ( 1;", 1, ";");
+        bad("breath ( 1 2 );", 1, "2");
+        bad("breath ( 1 ) );", 1, ");");
         bad("breath not;", 1, ";");
         bad("breath fact;", 1, "fact");
 
@@ -441,10 +445,12 @@ public final class TextEdgesTest {
             DrownedCave x = Probe.told("place m deep 0;place p deep " + depth + ";way m p wide long 1;diver a plain gas 9;");
             Probe.due("at " + depth, x.cost(0, 0), 1 + depth);
         }
-        DrownedCave again = Probe.told("breath 9;");
-        Probe.due("a cave without it behind one with it", Probe.cave(again,
-            "place m deep 0;place p deep 3;way m p wide long 1;diver a plain gas 9;"), 0);
-        Probe.due("its cost", again.cost(0, 0), 4);
+        String without = "place m deep 0;place p deep 3;way m p wide long 1;diver a plain gas 9;";
+        DrownedCave again = Probe.told("breath not 0 + 9 * 9;");
+        for (int i = 0; i < 4; i++) {
+            Probe.due("a cave without it behind one with it", Probe.cave(again, without), 0);
+            Probe.due("its cost", again.cost(0, 0), 4);
+        }
     }
 
     private static void facts() {
@@ -516,6 +522,21 @@ public final class TextEdgesTest {
 
     private static void theLeastFault() {
         Probe.sentence("of the first token from the left that is wrong the least");
+        for (String text : new String[] {"place ,", "place x ,", "place x deep ,", "way ;", "way aa ;", "way aa bb ;", "way aa bb wide ;",
+            "way aa bb wide long ;", "diver ;", "diver x ;", "diver x old ;", "diver x old gas ;", "rain ;", "breath ;", "breath ( ;",
+            "breath not ;", "breath 1 < ;", "breath 1 * ;", "place x deep 10", "way aa cc", "way aa aa", "place aa", "rain 10"}) {
+            int place = (TWO + text).lastIndexOf(' ') + 1;
+            int kind = text.endsWith("0") ? 4 : text.endsWith("cc") ? 2 : text.endsWith("aa") ? 3 : 1;
+            Probe.due("more is wrong behind: " + text, Probe.cave(new DrownedCave(), TWO + text + " ; , place"), kind + 16 * place);
+            Probe.due("all is right behind: " + text, Probe.cave(new DrownedCave(), TWO + text + "; rain 1;"), kind + 16 * place);
+        }
+        for (String text : new String[] {"swim ;", "swim dd ;", "lay ;", "stage ;", "take dd ;", "share dd ;", "share dd ee ;", "stone ;",
+            "hour ,", "swim dd 8", "share dd xx", "share dd dd"}) {
+            int place = text.lastIndexOf(' ') + 1;
+            int kind = text.endsWith("8") ? 4 : text.endsWith("xx") ? 2 : text.endsWith("dd") ? 3 : 1;
+            Probe.due("more is wrong behind: " + text, Probe.dive(Probe.told(TWO), text + " ; , swim"), kind + 16 * place);
+            Probe.due("all is right behind: " + text, Probe.dive(Probe.told(TWO), text + "; hour;"), kind + 16 * place);
+        }
         bad("place a deep 10;place a deep 1;", 4, "10");
         bad("place a deep 1;place a deep 10;hour", 3, "a deep 10");
         bad("rain 1 2 3 4 5 6 7 8 9 0 1 2 10;", 4, "10");
@@ -691,6 +712,33 @@ public final class TextEdgesTest {
         Probe.due("one drowns", dead.hour(), 1);
         Probe.due("the cave anew", Probe.cave(dead, "place m deep 9;diver a plain gas 11;"), 0);
         Probe.due("nobody is drowned", dead.count(5), 0);
+    }
+
+    private static void caveBehindCave() {
+        Probe.sentence("Without a FAULT a CAVE is the CAVE from then on");
+        DrownedCave often = Probe.told(EIGHT + FOUR + "rain 1 2 3;breath 1;");
+        for (int i = 0; i < 4; i++) {
+            Probe.due("cave behind cave", Probe.cave(often, TWO + "way aa bb wide long 1;rain 4 5;breath not 0 + 2;"), 0);
+            Probe.due("its gas", often.count(8), 18);
+            Probe.due("its places", often.count(0), 2);
+            Probe.due("its ways", often.open(), 1);
+            Probe.due("its divers", often.count(2), 2);
+            Probe.due("its rain", often.count(4), 4);
+            Probe.due("its breath", often.cost(0, 0), 2);
+        }
+        Probe.due("a lesser one", Probe.cave(often, "place m deep 0;place p deep 0;way m p wide long 1;diver a plain gas 7;breath 5;"), 0);
+        Probe.due("its breath", often.cost(0, 0), 5);
+        Probe.due("its gas", often.count(8), 7);
+        Probe.due("a lesser one yet", Probe.cave(often, "place m deep 0;place p deep 0;way m p wide long 1;diver a plain gas 8;breath 6;"), 0);
+        Probe.due("its breath", often.cost(0, 0), 6);
+        Probe.due("its gas", often.count(8), 8);
+        int[] breaths = {1, 9, 3, 8, 1, 7, 12};
+        String[] laws = {"not ( 1 + 2 )", "9", "1 + 2", "8", "not ( 3 * 4 )", "7", "3 * 4"};
+        for (int i = 0; i < laws.length; i++) {
+            Probe.due("law behind law", Probe.cave(often, "place m deep 0;place p deep 0;way m p wide long 1;diver a plain gas 8;breath "
+                + laws[i] + ";"), 0);
+            Probe.due("breath " + laws[i], often.cost(0, 0), breaths[i]);
+        }
     }
 
     private static void whatADiveIs() {
