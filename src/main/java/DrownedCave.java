@@ -1720,10 +1720,10 @@ public final class DrownedCave {
             for (int round = 0; better && round < PLACES; round++) {
                 better = false;
                 for (int way = 0; way < cave.ways; way++) {
-                    int one = cave.oneEnds[way];
-                    int other = cave.otherEnds[way];
-                    if (isIn(ways, way) && (lowers(one, other, prices[way]) | lowers(other, one, prices[way]))) {
-                        better = true;
+                    if (isIn(ways, way)) {
+                        boolean there = lowers(cave.oneEnds[way], cave.otherEnds[way], prices[way]);
+                        boolean back = lowers(cave.otherEnds[way], cave.oneEnds[way], prices[way]);
+                        better = better || there || back;
                     }
                 }
             }

@@ -170,25 +170,42 @@ public final class ModelTest {
             told.add(rain.toString());
         }
         if (draws.nextInt(3) > 0) {
-            told.add("breath " + (draws.nextBoolean() ? one(LAWS) : law(4, 0)));
+            told.add("breath " + (draws.nextBoolean() ? one(LAWS) : law(0)));
         }
         return joined(told, spoiled);
     }
 
-    private String law(int size, int within) {
+    private String law(int within) {
+        StringBuilder law = new StringBuilder(test(within));
+        while (draws.nextInt(4) == 0) {
+            law.append(draws.nextBoolean() ? " and " : " or ").append(test(within));
+        }
+        return law.toString();
+    }
+
+    private String test(int within) {
+        return draws.nextInt(4) > 0 ? sum(within) : sum(within) + (draws.nextBoolean() ? "<" : " = ") + sum(within);
+    }
+
+    private String sum(int within) {
+        StringBuilder sum = new StringBuilder(product(within));
+        while (draws.nextInt(3) == 0) {
+            sum.append(draws.nextBoolean() ? " + " : "-").append(product(within));
+        }
+        return sum.toString();
+    }
+
+    private String product(int within) {
+        return draws.nextInt(4) > 0 ? part(within) : part(within) + "*" + part(within);
+    }
+
+    private String part(int within) {
         int kind = draws.nextInt(10);
-        if (size <= 0 || kind < 3 || kind < 5 && within >= 4) {
+        if (within >= 4 || kind > 3) {
             return draws.nextBoolean() ? one(new String[] {"depth", "white", "silt", "hours"})
                 : String.valueOf(draws.nextInt(draws.nextInt(4) == 0 ? 10000 : 10));
         }
-        if (kind == 3) {
-            return "not " + law(0, within + 1);
-        }
-        if (kind == 4) {
-            return "( " + law(size - 1, within + 1) + ")";
-        }
-        String sign = one(new String[] {" + ", "-", "*", " + ", " and ", " or "});
-        return law(size - 1, within) + sign + law(size - 2, within);
+        return kind > 1 ? "not " + part(within + 1) : "( " + law(within + 1) + ")";
     }
 
     private String diveText(boolean spoiled) {
